@@ -1,0 +1,74 @@
+import java.lang.reflect.Constructor;
+import java.lang.reflect.Field;
+import java.lang.reflect.Method;
+import java.lang.reflect.Modifier;
+import java.nio.file.Files;
+import java.nio.file.Path;
+import java.util.Arrays;
+import java.util.TreeSet;
+import java.util.regex.Matcher;
+import java.util.regex.Pattern;
+
+/** The face is the document's and no more; the source has none of the words that LANGUAGE.md rules out. */
+public final class LanguageTest {
+    private static final String[] FACE = {
+        "int type(long,int)", "int clear()", "int given()", "int proof()", "int wrong()", "int end()",
+        "long line(int)", "int value(int,int)", "int lead(int,int)", "long both(int,int,int)", "long with(int,int,int)",
+        "long common()", "int follows(int)", "long standing()", "long left(int)", "long rest(long)", "long base(int)",
+        "int deep(int,int)", "int needed(int,int)", "int weight(int,int)", "int count(int)", "long trace()"
+    };
+
+    public static void main(String[] args) throws Exception {
+        Checks c = new Checks("LanguageTest");
+        face(c);
+        words(c);
+        c.finish();
+    }
+
+    private static void face(Checks c) {
+        TreeSet<String> open = new TreeSet<>();
+        TreeSet<String> openNames = new TreeSet<>();
+        TreeSet<String> closedNames = new TreeSet<>();
+        for (Method m : NoughtSums.class.getDeclaredMethods()) {
+            if (Modifier.isPrivate(m.getModifiers())) {
+                closedNames.add(m.getName());
+            } else if (!m.isSynthetic()) {
+                String kinds = Arrays.toString(m.getParameterTypes()).replaceAll("[\\[\\] ]", "");
+                open.add(m.getReturnType() + " " + m.getName() + "(" + kinds + ")");
+                openNames.add(m.getName());
+            }
+        }
+        c.due("open methods are the face's " + open, open.equals(new TreeSet<>(Arrays.asList(FACE))) ? 1 : 0, 1);
+        closedNames.retainAll(openNames);
+        c.due("private methods named as public ones " + closedNames, closedNames.size(), 0);
+        TreeSet<String> fields = new TreeSet<>();
+        for (Field f : NoughtSums.class.getDeclaredFields()) {
+            if (!Modifier.isPrivate(f.getModifiers())) {
+                fields.add(f.getName());
+            }
+        }
+        c.due("open fields " + fields, fields.equals(new TreeSet<>(Arrays.asList("BAD", "FULL", "NONE"))) ? 1 : 0, 1);
+        Constructor<?>[] made = NoughtSums.class.getDeclaredConstructors();
+        c.due("constructors", made.length, 1);
+        c.due("the class is public and final", NoughtSums.class.getModifiers(), Modifier.PUBLIC | Modifier.FINAL);
+        c.due("BAD", NoughtSums.BAD, -1);
+        c.due("FULL", NoughtSums.FULL, -3);
+        c.due("NONE", NoughtSums.NONE, -9);
+    }
+
+    private static void words(Checks c) throws Exception {
+        String source = Files.readString(Path.of("src/main/java/NoughtSums.java"));
+        source = source.replaceAll("(?s)/\\*.*?\\*/", "").replaceAll("//[^\\n]*", "");
+        Matcher m = Pattern.compile("\\b(throws?|try|catch|synchronized|assert|import|package|System|Random|Thread)\\b"
+            + "|->|::|[a-z]Exact\\b").matcher(source);
+        while (m.find()) {
+            c.due("the source has " + m.group(), 1, 0);
+        }
+        c.due("the source was read", source.contains("class NoughtSums") ? 1 : 0, 1);
+        for (int k = 0; k < source.length(); k++) {
+            if (source.charAt(k) > 127) {
+                c.due("a sign above 127 at " + k, 1, 0);
+            }
+        }
+    }
+}
