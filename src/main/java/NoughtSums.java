@@ -512,8 +512,8 @@ public final class NoughtSums {
         private final long[] rows = new long[PRODUCTS];
         private final int[] levels = new int[PRODUCTS];
         private final int[] came = new int[PRODUCTS];
-        private long leads = 0L;
-        private int size = 0;
+        long leads = 0L;
+        int size = 0;
 
         void empty() {
             leads = 0L;
@@ -601,7 +601,7 @@ public final class NoughtSums {
         private static final int NO_TOKEN = 10;
 
         private final int[] bytes = new int[MOST_BYTES];
-        private int length = 0;
+        int length = 0;
 
         private int place = 0;
         private int start = 0;
@@ -610,12 +610,12 @@ public final class NoughtSums {
         private int meaning = 0;
 
         /** How many sums or steps were told. */
-        private int told = 0;
-        private final long[] sums = new long[MOST_STEPS];
-        private final int[] ops = new int[MOST_STEPS];
-        private final int[] firsts = new int[MOST_STEPS];
+        int told = 0;
+        final long[] sums = new long[MOST_STEPS];
+        final int[] ops = new int[MOST_STEPS];
+        final int[] firsts = new int[MOST_STEPS];
         /** A line, or the product of the one letter of a step with BY. */
-        private final int[] seconds = new int[MOST_STEPS];
+        final int[] seconds = new int[MOST_STEPS];
 
         void append(int octet) {
             if (length >= 0 && length < MOST_BYTES) {

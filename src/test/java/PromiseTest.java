@@ -375,8 +375,8 @@ public final class PromiseTest {
         due("f 0 of 1", x.with(1, 5, 0), 1L << 31);
         due("letter 6", x.with(0, 6, 0), 0);
         due("letter -1", x.with(0, -1, 0), 0);
-        due("v 2", x.with(0, 0, 2), 0);
-        due("v -1", x.with(0, 0, -1), 0);
+        due("v 2", x.with(0, 5, 2), 0);
+        due("v -1", x.with(0, 5, -1), 0);
         due("line 2", x.with(2, 0, 0), 0);
         due("line -1", x.with(-1, 0, 0), 0);
     }
@@ -457,6 +457,13 @@ public final class PromiseTest {
         NoughtSums y = made("abcdef+1;", "claim a+1;claim 0;");
         due("the product of five letters with a given one", y.deep(1, 0) > 6 ? 1 : 0, 1);
         due("given 1", made("1;").deep(0, 0), 0);
+        due("a product of five with a sum of six", made("abcdef+1;", "claim abcde+abcdef;").deep(1, 0), 11);
+        NoughtSums z = made("ab;", "claim abc;");
+        due("abc by ab", z.deep(1, 0), 3);
+        due("given anew", Checks.given(z, "abc;"), 1);
+        due("abc is given", z.deep(0, 0), 3);
+        due("given anew once more", Checks.given(z, "a;b;"), 2);
+        due("a is given", z.deep(0, 0), 1);
         due("what 2", x.deep(0, 2), NoughtSums.BAD);
         due("what -1", x.deep(0, -1), NoughtSums.BAD);
         for (int bad : OUTSIDE) {
@@ -481,6 +488,10 @@ public final class PromiseTest {
         due("c at once", y.deep(2, 0), 2);
         due("cd at once", y.deep(3, 0), 3);
         due("cde at once", y.deep(4, 0), 4);
+        due("given anew", Checks.given(y, "c;"), 1);
+        due("c is given", y.deep(0, 1), 1);
+        due("nothing is given", Checks.given(y, ""), 0);
+        due("what stands then", y.standing(), -1L);
     }
 
     private static void needed() {
