@@ -6,6 +6,8 @@ import java.util.TreeSet;
 /** Random runs against the document's words taken literally and slowly, by other means than the class uses. */
 public final class OracleTest {
     private static final Checks C = new Checks("OracleTest");
+    /** Two rounds of two texts (104 calls), 38 calls and 17 for each of these lines stay within an object's 512. */
+    private static final int LINES_A_ROUND = 6;
     private static final String[] BITS = {
         "a", "b", "f", "ab", "abc", "aa", "1", "0", "2", "9", "10", "99", "100", "01", "+", ";", " ", "add", "by",
         "times", "claim", "g", "?", "add 0 1;", "claim 0;", "by 0 c;", "\u0000", "\u00ff"
@@ -13,7 +15,7 @@ public final class OracleTest {
 
     public static void main(String[] args) {
         Random random = new Random(20261116L);
-        for (int k = 0; k < 1500 && C.wrongs() < 20; k++) {
+        for (int k = 0; k < 2000 && C.wrongs() < 20; k++) {
             oneRun(random, 2 + random.nextInt(5));
         }
         for (int k = 0; k < 400 && C.wrongs() < 20; k++) {
@@ -67,8 +69,8 @@ public final class OracleTest {
     /** Claims are mostly multiples of given sums with something added, so that some follow and some do not. */
     private static String proofText(Random random, int letters, List<Long> given) {
         StringBuilder text = new StringBuilder();
-        int steps = random.nextInt(12);
-        for (int k = 0; k < steps && given.size() + k > 0; k++) {
+        int steps = random.nextInt(random.nextInt(5) == 0 ? 25 : 12);
+        for (int k = 0; k < steps && given.size() + k > 0 && text.length() < 320; k++) {
             int i = random.nextInt(given.size() + k);
             int j = random.nextInt(given.size() + k);
             int kind = random.nextInt(4);
@@ -177,7 +179,9 @@ public final class OracleTest {
             C.due(at + "rest " + sum, x.rest(sum), o.left(sum));
         }
         int n = o.lines.size();
-        for (int i = 0; i < n; i++) {
+        int first = random.nextInt(n + 1);
+        for (int k = 0; k < n && k < LINES_A_ROUND; k++) {
+            int i = (first + k) % n;
             compareLine(random, x, o, at + "line " + i + " ", i, n);
         }
         C.due(at + "behind the last", x.line(n), 0);

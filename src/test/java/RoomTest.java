@@ -2,6 +2,7 @@ import java.lang.management.ManagementFactory;
 
 /** No call makes an object: the room of a run is taken by the constructor alone. */
 public final class RoomTest {
+    private static final int ROUNDS = 2000;
     private static final long[] GIVEN = packed("ab + c;bc+a;a+1;abcdef+f;");
     private static final long[] PROOF = packed("add 0 1;by 4 f;times 4 5;claim 0;claim a+1;");
     private static final long[] FAULTY = packed("claim 0;by 0 ab;");
@@ -11,12 +12,16 @@ public final class RoomTest {
         com.sun.management.ThreadMXBean beans =
             (com.sun.management.ThreadMXBean) ManagementFactory.getThreadMXBean();
         long self = Thread.currentThread().getId();
-        NoughtSums x = new NoughtSums();
-        allCalls(x);
+        // Each round has an object of its own, made ahead: one is used for 512 calls at most.
+        NoughtSums[] all = new NoughtSums[ROUNDS];
+        for (int k = 0; k < ROUNDS; k++) {
+            all[k] = new NoughtSums();
+        }
+        allCalls(new NoughtSums());
         beans.getThreadAllocatedBytes(self);
         long before = beans.getThreadAllocatedBytes(self);
-        for (int k = 0; k < 2000; k++) {
-            allCalls(x);
+        for (int k = 0; k < ROUNDS; k++) {
+            allCalls(all[k]);
         }
         long made = beans.getThreadAllocatedBytes(self) - before;
         // The machine itself may take a little (class loading, the bean's own); one object a call would be megabytes.
