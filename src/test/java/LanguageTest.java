@@ -21,6 +21,7 @@ public final class LanguageTest {
     public static void main(String[] args) throws Exception {
         Checks c = new Checks("LanguageTest");
         face(c);
+        measures(c);
         words(c);
         c.finish();
     }
@@ -54,6 +55,34 @@ public final class LanguageTest {
         c.due("BAD", NoughtSums.BAD, -1);
         c.due("FULL", NoughtSums.FULL, -3);
         c.due("NONE", NoughtSums.NONE, -9);
+    }
+
+    /** Rules 1, 2, 5, 11: nested classes static and not open, static fields final, few fields and parameters. */
+    private static void measures(Checks c) {
+        Class<?>[] inside = NoughtSums.class.getDeclaredClasses();
+        c.due("some twelve classes", inside.length < 12 ? 1 : 0, 1);
+        measure(c, NoughtSums.class);
+        for (Class<?> one : inside) {
+            int modifiers = one.getModifiers();
+            c.due(one + " is static", Modifier.isStatic(modifiers) ? 1 : 0, 1);
+            c.due(one + " is open", Modifier.isPublic(modifiers) || Modifier.isProtected(modifiers) ? 1 : 0, 0);
+            measure(c, one);
+        }
+    }
+
+    private static void measure(Checks c, Class<?> one) {
+        int fields = 0;
+        for (Field f : one.getDeclaredFields()) {
+            if (Modifier.isStatic(f.getModifiers())) {
+                c.due(f + " is final", Modifier.isFinal(f.getModifiers()) ? 1 : 0, 1);
+            } else {
+                fields++;
+            }
+        }
+        c.due("fields of " + one + ": " + fields, fields <= 20 ? 1 : 0, 1);
+        for (Method m : one.getDeclaredMethods()) {
+            c.due("parameters of " + m, m.getParameterCount() <= 7 ? 1 : 0, 1);
+        }
     }
 
     private static void words(Checks c) throws Exception {

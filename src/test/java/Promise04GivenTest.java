@@ -12,6 +12,7 @@ public final class Promise04GivenTest {
         eightSumsAtMost();
         ninthSumIsAFault();
         fullText();
+        fullTextEndsInEachToken();
         noProofThen();
         textIsEmptyThen();
         twoAlikeGoAway();
@@ -108,6 +109,16 @@ public final class Promise04GivenTest {
         C.due("a word up to the last byte", Checks.given(x, " ".repeat(100) + "z".repeat(300)), -110);
         C.due("a number up to the last byte", Checks.given(x, "9".repeat(400)), -10);
         C.due("noughts up to the last byte", Checks.given(x, "0".repeat(400)), -10);
+    }
+
+    private static void fullTextEndsInEachToken() {
+        for (String end : new String[] {"a", "abcdef", "0", "1", "a+", "a+f", "a+1"}) {
+            dueGiven(" ".repeat(400 - end.length()) + end, -410);
+            dueGiven(" ".repeat(399 - end.length()) + end, -409);
+        }
+        for (String end : new String[] {"aa", "g", "claim", "2", "01", "100", "+", ";"}) {
+            dueGiven(" ".repeat(400 - end.length()) + end, -410 + end.length());
+        }
     }
 
     private static void noProofThen() {

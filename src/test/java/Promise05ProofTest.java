@@ -11,6 +11,7 @@ public final class Promise05ProofTest {
         stepsAtMost24();
         step25IsAFault();
         fullText();
+        fullTextEndsInEachToken();
         linesGoOnBehindGiven();
         addTakesTwoAlikeAway();
         byGivesEachProductTheLetter();
@@ -26,6 +27,7 @@ public final class Promise05ProofTest {
         letterIsARunOfOne();
         claimTakesASum();
         stepsBeginWithTheirWord();
+        wordsAreToldByEachLetter();
         eachByteAlone();
         eachByteBehindAWord();
         eachByteBehindANumber();
@@ -114,6 +116,16 @@ public final class Promise05ProofTest {
         C.due("a number up to the last byte", Checks.proof(x, "add " + "0".repeat(396)), -14);
         C.due("24 steps in 400 bytes", Checks.proof(x, " ".repeat(208) + "add 0 0;".repeat(24)), 24);
         C.due("25 steps in 400 bytes", Checks.proof(x, " ".repeat(200) + "add 0 0;".repeat(25)), -402);
+    }
+
+    private static void fullTextEndsInEachToken() {
+        for (String end : new String[] {"add", "by", "times", "claim", "add 0", "by 0", "by 0 a", "claim abc", "claim 1+"}) {
+            dueProof(" ".repeat(400 - end.length()) + end, -410);
+            dueProof(" ".repeat(399 - end.length()) + end, -409);
+        }
+        for (String end : new String[] {"a", "abcdef", "z", "100", "+", ";", "claims"}) {
+            dueProof(" ".repeat(400 - end.length()) + end, -410 + end.length());
+        }
     }
 
     private static void linesGoOnBehindGiven() {
@@ -303,6 +315,19 @@ public final class Promise05ProofTest {
             "z 0 0;", "prove 0;"}) {
             dueProof(bad, -10);
             dueProof("claim 0; " + bad, -19);
+        }
+    }
+
+    private static void wordsAreToldByEachLetter() {
+        String[] steps = {"add 0 0;", "by 0 a;", "times 0 0;", "claim a;"};
+        for (String step : steps) {
+            dueProof(step, 1);
+            for (int k = 0; step.charAt(k) != ' '; k++) {
+                for (char c = 'a'; c <= 'z'; c++) {
+                    String near = step.substring(0, k) + c + step.substring(k + 1);
+                    dueProof(near, c == step.charAt(k) ? 1 : -10);
+                }
+            }
         }
     }
 

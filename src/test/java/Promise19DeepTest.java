@@ -19,6 +19,7 @@ public final class Promise19DeepTest {
         grownGoesOnWithWhatCame();
         grownTakesGivenOfItsDegreeAtMost();
         goesWithGiven();
+        nothingStaysOfGivenAhead();
         refusesOtherNumbers();
         C.finish();
     }
@@ -154,6 +155,21 @@ public final class Promise19DeepTest {
         Checks.given(x, "abc;ab;");
         C.due("at once abc", x.deep(0, 0), 3);
         C.due("grown ab", x.deep(1, 1), 2);
+    }
+
+    /** All that came by 1 is gone with it. */
+    private static void nothingStaysOfGivenAhead() {
+        NoughtSums x = Checks.made("1;");
+        C.due("at once 1", x.deep(0, 0), 0);
+        C.due("grown 1", x.deep(0, 1), 0);
+        Checks.given(x, "abcdef+1;");
+        Checks.proof(x, "claim a+1;");
+        C.due("at once a+1", x.deep(1, 0), 7);
+        C.due("grown a+1", x.deep(1, 1), NoughtSums.NONE);
+        Checks.given(x, "");
+        Checks.proof(x, "claim 0;");
+        C.due("grown 0", x.deep(0, 1), 0);
+        C.due("what stands", x.standing(), -1L);
     }
 
     private static void refusesOtherNumbers() {
