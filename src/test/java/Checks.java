@@ -1,4 +1,4 @@
-/** Counts and prints the answers that are not as due; types texts into an object; tells all that an object answers. */
+/** Counts and prints the answers that are not as due; types texts into an object; tells its state. */
 final class Checks {
     /** The most LINES that there can be are 0 .. 31, behind 8 GIVEN and 24 STEPS. */
     static final String EIGHT_GIVEN = "a;b;c;d;e;f;ab+c;0;";
@@ -92,7 +92,7 @@ final class Checks {
         return made(EIGHT_GIVEN, MOST_STEPS);
     }
 
-    /** All that an object answers to calls that change nothing: 81 calls, as it has but 512. */
+    /** What shows an object's state, by 81 calls that change nothing (it has but 512); THE TEXT by its length alone. */
     static String told(NoughtSums x) {
         StringBuilder out = new StringBuilder();
         for (int what = 0; what < 7; what++) {
