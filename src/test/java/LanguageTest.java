@@ -5,6 +5,8 @@ import java.lang.reflect.Modifier;
 import java.nio.file.Files;
 import java.nio.file.Path;
 import java.util.Arrays;
+import java.util.Set;
+import java.util.TreeMap;
 import java.util.TreeSet;
 import java.util.regex.Matcher;
 import java.util.regex.Pattern;
@@ -18,11 +20,18 @@ public final class LanguageTest {
         "int deep(int,int)", "int needed(int,int)", "int weight(int,int)", "int count(int)", "long trace()"
     };
 
+    private static final int MOST_DEEP = 8;
+    /** Of what LANGUAGE.md lists that which the class uses. */
+    private static final Set<String> LISTED =
+        Set.of("Integer.bitCount(", "Long.bitCount(", "Math.max(", "Math.min(", "word.length(", "word.charAt(");
+
     public static void main(String[] args) throws Exception {
         Checks c = new Checks("LanguageTest");
         face(c);
         measures(c);
-        words(c);
+        String source = source();
+        words(c, source);
+        methods(c, source);
         c.finish();
     }
 
@@ -85,9 +94,13 @@ public final class LanguageTest {
         }
     }
 
-    private static void words(Checks c) throws Exception {
+    /** The source without its comments. */
+    private static String source() throws Exception {
         String source = Files.readString(Path.of("src/main/java/NoughtSums.java"));
-        source = source.replaceAll("(?s)/\\*.*?\\*/", "").replaceAll("//[^\\n]*", "");
+        return source.replaceAll("(?s)/\\*.*?\\*/", "").replaceAll("//[^\\n]*", "");
+    }
+
+    private static void words(Checks c, String source) {
         Matcher m = Pattern.compile("\\b(throws?|try|catch|synchronized|assert|import|package|System|Random|Thread)\\b"
             + "|->|::|[a-z]Exact\\b").matcher(source);
         while (m.find()) {
@@ -99,5 +112,49 @@ public final class LanguageTest {
                 c.due("a sign above 127 at " + k, 1, 0);
             }
         }
+    }
+
+    // ---- methods, told apart by their indentation
+
+    /** Rules 4, 8, 11: methods stay short, call what is theirs or listed, and not more than eight deep. */
+    private static void methods(Checks c, String source) {
+        TreeMap<String, String> bodies = new TreeMap<>();
+        Matcher m = Pattern.compile("(?ms)^( {4}| {8})(?:\\w+ )*(\\w+)\\([^)]*\\) \\{\\n(.*?)^\\1\\}$").matcher(source);
+        while (m.find()) {
+            c.due("methods named " + m.group(2), bodies.put(m.group(2), m.group(3)) == null ? 1 : 2, 1);
+            long rows = m.group(3).lines().count() + 2;
+            c.due("rows of " + m.group(2) + ": " + rows, rows <= 60 ? 1 : 0, 1);
+        }
+        found(c, bodies, NoughtSums.class);
+        for (Class<?> one : NoughtSums.class.getDeclaredClasses()) {
+            found(c, bodies, one);
+        }
+        for (String name : bodies.keySet()) {
+            int deep = deep(c, bodies, name, 1);
+            c.due("calls from " + name + " go deep: " + deep, deep <= MOST_DEEP ? 1 : 0, 1);
+        }
+    }
+
+    private static void found(Checks c, TreeMap<String, String> bodies, Class<?> one) {
+        for (Method m : one.getDeclaredMethods()) {
+            c.due(m + " was found in the source", m.isSynthetic() || bodies.containsKey(m.getName()) ? 1 : 0, 1);
+        }
+    }
+
+    /** How many calls stand open at once below this one, with it; the library's own are looked up, and not counted. */
+    private static int deep(Checks c, TreeMap<String, String> bodies, String name, int ahead) {
+        if (ahead > MOST_DEEP) {
+            return 1;
+        }
+        int below = 0;
+        Matcher m = Pattern.compile("(\\b\\w+\\.|\\bnew )?\\b(\\w+)\\(").matcher(bodies.get(name));
+        while (m.find()) {
+            if (bodies.containsKey(m.group(2))) {
+                below = Math.max(below, deep(c, bodies, m.group(2), ahead + 1));
+            } else {
+                c.due(name + " calls " + m.group(), LISTED.contains(m.group()) ? 1 : 0, 1);
+            }
+        }
+        return 1 + below;
     }
 }
